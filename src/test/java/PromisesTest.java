@@ -165,6 +165,10 @@ public final class PromisesTest {
         Due.is("2: which does not use the line", x.victim(0, 0), 0);
         Due.is("2: from the cache", x.load(0, 2), 0);
         Due.is("2: which uses the line", x.victim(0, 0), 2);
+        Due.is("2: the copy's word is the last", x.last(0), 0);
+        Due.is("2: drain", x.drain(0), 0);
+        Due.is("2: from the cache", x.load(0, 1), 0);
+        Due.is("2: the copy's word is the last", x.last(0), 5);
     }
 
     private static void promise2LoadRefused() {
@@ -783,6 +787,7 @@ public final class PromisesTest {
         for (int core : NO_CORES_OF_TWO) {
             Due.is("17: no core " + core, x.victim(core, 1), BAD);
         }
+        fetch(x, 1, 24);
         for (int set : NO_SETS) {
             Due.is("17: no set " + set, x.victim(1, set), BAD);
         }
