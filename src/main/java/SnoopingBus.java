@@ -289,17 +289,6 @@ public final class SnoopingBus {
     private static final class MainMemory {
         private final int[] words = new int[WORDS];
         private int writeBacks;
-
-        private void takeBack(int line, int[] copies) {
-            int first = line * WORDS_OF_LINE;
-            System.arraycopy(copies, first, words, first, WORDS_OF_LINE);
-            writeBacks++;
-        }
-
-        private void giveTo(int line, int[] copies) {
-            int first = line * WORDS_OF_LINE;
-            System.arraycopy(words, first, copies, first, WORDS_OF_LINE);
-        }
     }
 
     /**
@@ -344,7 +333,8 @@ public final class SnoopingBus {
             if (leaving != NO_LINE) {
                 drop(leaving);
             }
-            main.giveTo(line, words);
+            int first = line * WORDS_OF_LINE;
+            System.arraycopy(main.words, first, words, first, WORDS_OF_LINE);
             states[line] = state;
             use(line);
         }
@@ -375,7 +365,9 @@ public final class SnoopingBus {
 
         private void writeBackIfModified(int line) {
             if (states[line] == MODIFIED) {
-                main.takeBack(line, words);
+                int first = line * WORDS_OF_LINE;
+                System.arraycopy(words, first, main.words, first, WORDS_OF_LINE);
+                main.writeBacks++;
             }
         }
     }
@@ -436,7 +428,7 @@ public final class SnoopingBus {
             return WAITS_NOW;
         }
 
-        /** The request's kind names the change, so that a drain, swap or add done at once and one that waited are the same. */
+        /** The request's kind names the change, so that one done at once and one that waited are the same. */
         private void change(int kind, int address, int word) {
             if (kind == OWN) {
                 cache.put(address, word);
