@@ -54,18 +54,6 @@ public final class PromisesTest {
         Due.close();
     }
 
-    /** Makes a core load a word by way of the bus, when nobody else waits. */
-    private static void fetch(SnoopingBus x, int core, int address) {
-        Due.is("fetch: load(" + core + ", " + address + ")", x.load(core, address), 1);
-        Due.is("fetch: bus()", x.bus(), core);
-    }
-
-    /** Makes a core's line modified by way of the bus, when nobody else waits. */
-    private static void own(SnoopingBus x, int core, int address, int word) {
-        Due.is("own: swap(" + core + ", " + address + ")", x.swap(core, address, word), 1);
-        Due.is("own: bus()", x.bus(), core);
-    }
-
     private static void constants() {
         Due.is("BAD", BAD, -1);
         Due.is("BUSY", BUSY, -2);
@@ -92,7 +80,7 @@ public final class PromisesTest {
             for (int set = 0; set < 2; set++) {
                 SnoopingBus x = new SnoopingBus(2, asked[i]);
                 for (int filled = 1; filled <= 4; filled++) {
-                    fetch(x, 0, 4 * set + 8 * (filled - 1));
+                    Steps.fetch(x, 0, 4 * set + 8 * (filled - 1));
                     int leaving = filled < due[i] ? BAD : set + 2 * (filled - due[i]);
                     Due.is("1: ways " + asked[i] + ": victim(0, " + set + ")", x.victim(0, set), leaving);
                 }
@@ -157,8 +145,8 @@ public final class PromisesTest {
 
     private static void promise2LoadUses() {
         SnoopingBus x = new SnoopingBus(2, 2);
-        fetch(x, 0, 0);
-        fetch(x, 0, 8);
+        Steps.fetch(x, 0, 0);
+        Steps.fetch(x, 0, 8);
         Due.is("2: line 0 is older", x.victim(0, 0), 0);
         x.store(0, 1, 5);
         Due.is("2: from the buffer", x.load(0, 1), 0);
@@ -250,8 +238,8 @@ public final class PromisesTest {
 
     private static void promise4DrainOwned() {
         SnoopingBus x = new SnoopingBus(2, 2);
-        fetch(x, 0, 4);
-        fetch(x, 0, 12);
+        Steps.fetch(x, 0, 4);
+        Steps.fetch(x, 0, 12);
         x.store(0, 5, 50);
         x.store(0, 6, 60);
         x.store(0, 5, 51);
@@ -267,7 +255,7 @@ public final class PromisesTest {
         Due.is("4: put over", x.copy(0, 5), 51);
         Due.is("4: memory waits", x.memory(5), 0);
         Due.is("4: the last word is as before", x.last(0), 0);
-        fetch(x, 1, 4);
+        Steps.fetch(x, 1, 4);
         x.store(0, 5, 52);
         Due.is("4: shared is not enough", x.drain(0), 1);
         Due.is("4: own", x.request(0), 2 + 8 * 5);
@@ -292,7 +280,7 @@ public final class PromisesTest {
         Due.is("5: bus()", x.bus(), 0);
         Due.is("5: the old word", x.last(0), 0);
         Due.is("5: the new word", x.copy(0, 22), -9);
-        fetch(x, 0, 4);
+        Steps.fetch(x, 0, 4);
         Due.is("5: line 5 is older", x.victim(0, 1), 5);
         Due.is("5: modified", x.swap(0, 22, MIN), 0);
         Due.is("5: the old word", x.last(0), -9);
@@ -301,7 +289,7 @@ public final class PromisesTest {
         Due.is("5: exclusive", x.swap(0, 7, 6), 0);
         Due.is("5: modified now", x.state(0, 1), 3);
         Due.is("5: only that word", x.copy(0, 6), 0);
-        fetch(x, 1, 7);
+        Steps.fetch(x, 1, 7);
         Due.is("5: shared is not enough", x.swap(0, 7, 5), 1);
         Due.is("5: not yet", x.copy(0, 7), 6);
         Due.is("5: bus()", x.bus(), 0);
@@ -317,7 +305,7 @@ public final class PromisesTest {
         for (int address : NO_ADDRESSES) {
             Due.is("5: no address " + address, x.swap(0, address, 1), BAD);
         }
-        own(x, 0, 0, 3);
+        Steps.own(x, 0, 0, 3);
         x.store(0, 16, 1);
         Due.is("5: the buffer is not empty", x.swap(0, 0, 4), NOT);
         Due.is("5: BAD before NOT", x.swap(0, 32, 4), BAD);
@@ -336,7 +324,7 @@ public final class PromisesTest {
         Due.is("6: bus()", x.bus(), 1);
         Due.is("6: the old word", x.last(1), 0);
         Due.is("6: the sum", x.copy(1, 9), MAX);
-        fetch(x, 1, 0);
+        Steps.fetch(x, 1, 0);
         Due.is("6: line 2 is older", x.victim(1, 0), 2);
         Due.is("6: modified", x.add(1, 9, 1), 0);
         Due.is("6: the old word", x.last(1), MAX);
@@ -351,7 +339,7 @@ public final class PromisesTest {
         Due.is("6: bus()", x.bus(), 0);
         Due.is("6: the old word", x.last(0), -4);
         Due.is("6: the sum", x.seen(3), -9);
-        fetch(x, 1, 3);
+        Steps.fetch(x, 1, 3);
         Due.is("6: shared is not enough", x.add(0, 3, 1), 1);
         Due.is("6: adding nothing asks as well", x.add(1, 3, 0), 1);
     }
@@ -364,7 +352,7 @@ public final class PromisesTest {
         for (int address : NO_ADDRESSES) {
             Due.is("6: no address " + address, x.add(0, address, 1), BAD);
         }
-        own(x, 0, 0, 3);
+        Steps.own(x, 0, 0, 3);
         x.store(0, 16, 1);
         Due.is("6: the buffer is not empty", x.add(0, 0, 4), NOT);
         Due.is("6: BAD before NOT", x.add(0, 32, 4), BAD);
@@ -411,13 +399,13 @@ public final class PromisesTest {
 
     private static void promise7Read() {
         SnoopingBus x = new SnoopingBus(3, 1);
-        fetch(x, 0, 4);
+        Steps.fetch(x, 0, 4);
         Due.is("7: alone: exclusive", x.state(0, 1), 2);
-        fetch(x, 1, 5);
+        Steps.fetch(x, 1, 5);
         Due.is("7: the other is shared", x.state(0, 1), 1);
         Due.is("7: and so is this", x.state(1, 1), 1);
         Due.is("7: nothing to write back", x.count(1), 0);
-        own(x, 0, 6, 66);
+        Steps.own(x, 0, 6, 66);
         Due.is("7: the others lost it", x.state(1, 1), 0);
         Due.is("7: read of a modified line", x.load(2, 6), 1);
         Due.is("7: bus()", x.bus(), 2);
@@ -430,22 +418,22 @@ public final class PromisesTest {
         Due.is("7: the copy there stays", x.copy(0, 6), 66);
         x.evict(0, 1);
         Due.is("7: the one that is left stays shared", x.state(2, 1), 1);
-        fetch(x, 0, 7);
+        Steps.fetch(x, 0, 7);
         Due.is("7: shared with it", x.state(0, 1), 1);
         x.evict(0, 1);
         x.evict(2, 1);
-        fetch(x, 0, 6);
+        Steps.fetch(x, 0, 6);
         Due.is("7: nobody has it: exclusive", x.state(0, 1), 2);
         Due.is("7: memory's word", x.last(0), 66);
     }
 
     private static void promise7ReadSharesWithoutUse() {
         SnoopingBus x = new SnoopingBus(2, 2);
-        own(x, 0, 0, 1);
-        fetch(x, 0, 8);
-        fetch(x, 1, 0);
+        Steps.own(x, 0, 0, 1);
+        Steps.fetch(x, 0, 8);
+        Steps.fetch(x, 1, 0);
         Due.is("7: shared, not used", x.victim(0, 0), 0);
-        fetch(x, 0, 16);
+        Steps.fetch(x, 0, 16);
         Due.is("7: so it left", x.state(0, 0), 0);
         Due.is("7: shared is not written back", x.count(1), 1);
         Due.is("7: leaving by itself is not by another core", x.count(2), 0);
@@ -453,19 +441,19 @@ public final class PromisesTest {
 
     private static void promise7ReadLeavesOthersStates() {
         SnoopingBus x = new SnoopingBus(4, 3);
-        own(x, 0, 0, 1);
-        own(x, 0, 8, 2);
-        fetch(x, 1, 16);
-        fetch(x, 2, 0);
+        Steps.own(x, 0, 0, 1);
+        Steps.own(x, 0, 8, 2);
+        Steps.fetch(x, 1, 16);
+        Steps.fetch(x, 2, 0);
         Due.is("7: another line stays modified", x.state(0, 2), 3);
         Due.is("7: another line stays exclusive", x.state(1, 4), 2);
-        fetch(x, 3, 0);
+        Steps.fetch(x, 3, 0);
         Due.is("7: three share", x.state(0, 0) + x.state(2, 0) + x.state(3, 0), 3);
     }
 
     private static void promise7Own() {
         SnoopingBus x = new SnoopingBus(4, 1);
-        own(x, 0, 12, 1);
+        Steps.own(x, 0, 12, 1);
         x.store(1, 13, 2);
         x.drain(1);
         Due.is("7: bus()", x.bus(), 1);
@@ -476,8 +464,8 @@ public final class PromisesTest {
         Due.is("7: and the store's", x.copy(1, 13), 2);
         Due.is("7: no upgrade", x.count(3), 0);
         Due.is("7: invalid because of another", x.count(2), 1);
-        fetch(x, 2, 12);
-        fetch(x, 3, 12);
+        Steps.fetch(x, 2, 12);
+        Steps.fetch(x, 3, 12);
         x.store(0, 14, 3);
         x.drain(0);
         Due.is("7: bus()", x.bus(), 0);
@@ -489,7 +477,7 @@ public final class PromisesTest {
 
     private static void promise7TradeAndRaise() {
         SnoopingBus x = new SnoopingBus(2, 1);
-        own(x, 0, 20, 100);
+        Steps.own(x, 0, 20, 100);
         Due.is("7: swap", x.swap(1, 20, 200), 1);
         Due.is("7: a change while it waits", x.add(0, 20, 5), 0);
         Due.is("7: bus()", x.bus(), 1);
@@ -506,9 +494,9 @@ public final class PromisesTest {
 
     private static void promise7Upgrade() {
         SnoopingBus x = new SnoopingBus(3, 2);
-        fetch(x, 0, 0);
-        fetch(x, 1, 0);
-        fetch(x, 0, 8);
+        Steps.fetch(x, 0, 0);
+        Steps.fetch(x, 1, 0);
+        Steps.fetch(x, 0, 8);
         Due.is("7: line 0 is older", x.victim(0, 0), 0);
         x.store(0, 0, 9);
         x.drain(0);
@@ -519,7 +507,7 @@ public final class PromisesTest {
         Due.is("7: nothing left for it", x.state(0, 2), 2);
         Due.is("7: invalid there", x.state(1, 0), 0);
         Due.is("7: counted", x.count(2), 1);
-        fetch(x, 1, 0);
+        Steps.fetch(x, 1, 0);
         x.evict(1, 0);
         Due.is("7: alone but shared still asks", x.add(0, 0, 1), 1);
         Due.is("7: bus()", x.bus(), 0);
@@ -529,8 +517,8 @@ public final class PromisesTest {
 
     private static void promise7UpgradeLostWhileWaiting() {
         SnoopingBus x = new SnoopingBus(2, 1);
-        fetch(x, 1, 28);
-        fetch(x, 0, 28);
+        Steps.fetch(x, 1, 28);
+        Steps.fetch(x, 0, 28);
         Due.is("7: both ask", x.swap(0, 28, 1), 1);
         Due.is("7: both ask", x.swap(1, 28, 2), 1);
         Due.is("7: bus()", x.bus(), 1);
@@ -545,11 +533,11 @@ public final class PromisesTest {
 
     private static void promise7Fill() {
         SnoopingBus x = new SnoopingBus(2, 2);
-        own(x, 0, 0, 5);
-        own(x, 0, 9, 6);
-        own(x, 0, 4, 7);
+        Steps.own(x, 0, 0, 5);
+        Steps.own(x, 0, 9, 6);
+        Steps.own(x, 0, 4, 7);
         Due.is("7: room for all", x.count(1), 0);
-        fetch(x, 0, 16);
+        Steps.fetch(x, 0, 16);
         Due.is("7: the oldest left", x.state(0, 0), 0);
         Due.is("7: written back", x.memory(0), 5);
         Due.is("7: counted", x.count(1), 1);
@@ -557,34 +545,34 @@ public final class PromisesTest {
         Due.is("7: the other one stays", x.state(0, 2), 3);
         Due.is("7: the other set stays", x.state(0, 1), 3);
         Due.is("7: a copy that left", x.copy(0, 0), 0);
-        own(x, 0, 2, 8);
+        Steps.own(x, 0, 2, 8);
         Due.is("7: a modified one left for a trade", x.memory(9), 6);
         Due.is("7: counted", x.count(1), 2);
         Due.is("7: the copy is memory's", x.copy(0, 0), 5);
-        own(x, 1, 24, 1);
-        own(x, 1, 16, 2);
+        Steps.own(x, 1, 24, 1);
+        Steps.own(x, 1, 16, 2);
         Due.is("7: of an unmodified line nothing is written", x.count(1), 2);
-        fetch(x, 1, 2);
+        Steps.fetch(x, 1, 2);
         Due.is("7: one there, one that left here", x.count(1), 4);
         Due.is("7: the one that left", x.memory(24), 1);
         Due.is("7: the one that is shared", x.memory(2), 8);
         x.evict(1, 4);
-        fetch(x, 1, 8);
+        Steps.fetch(x, 1, 8);
         Due.is("7: the free place is taken first", x.state(1, 0), 1);
     }
 
     private static void promise8Evict() {
         SnoopingBus x = new SnoopingBus(2, 2);
         Due.is("8: not there", x.evict(0, 7), 0);
-        fetch(x, 0, 28);
+        Steps.fetch(x, 0, 28);
         Due.is("8: exclusive", x.evict(0, 7), 2);
         Due.is("8: gone", x.state(0, 7), 0);
         Due.is("8: nothing written back", x.count(1), 0);
-        fetch(x, 0, 28);
-        fetch(x, 1, 28);
+        Steps.fetch(x, 0, 28);
+        Steps.fetch(x, 1, 28);
         Due.is("8: shared", x.evict(1, 7), 1);
         Due.is("8: the other stays shared", x.state(0, 7), 1);
-        own(x, 1, 3, 44);
+        Steps.own(x, 1, 3, 44);
         Due.is("8: modified", x.evict(1, 0), 3);
         Due.is("8: written back", x.memory(3), 44);
         Due.is("8: counted", x.count(1), 1);
@@ -604,7 +592,7 @@ public final class PromisesTest {
         for (int line : NO_LINES) {
             Due.is("8: no line " + line, x.evict(0, line), BAD);
         }
-        own(x, 0, 0, 1);
+        Steps.own(x, 0, 0, 1);
         x.load(0, 4);
         Due.is("8: BUSY", x.evict(0, 0), BUSY);
         Due.is("8: BUSY, not there", x.evict(0, 1), BUSY);
@@ -652,7 +640,7 @@ public final class PromisesTest {
 
     private static void promise11Buffered() {
         SnoopingBus x = new SnoopingBus(2, 1);
-        own(x, 1, 0, 1);
+        Steps.own(x, 1, 0, 1);
         for (int stores = 1; stores <= 4; stores++) {
             x.store(1, stores - 1, 9);
             Due.is("11: more", x.buffered(1), stores);
@@ -669,10 +657,10 @@ public final class PromisesTest {
 
     private static void promise12State() {
         SnoopingBus x = new SnoopingBus(2, 3);
-        fetch(x, 0, 31);
-        fetch(x, 0, 0);
-        fetch(x, 1, 0);
-        own(x, 0, 11, 1);
+        Steps.fetch(x, 0, 31);
+        Steps.fetch(x, 0, 0);
+        Steps.fetch(x, 1, 0);
+        Steps.own(x, 0, 11, 1);
         int[] due = {1, 0, 3, 0, 0, 0, 0, 2};
         for (int line = 0; line < 8; line++) {
             Due.is("12: state(0, " + line + ")", x.state(0, line), due[line]);
@@ -687,17 +675,17 @@ public final class PromisesTest {
 
     private static void promise13Copy() {
         SnoopingBus x = new SnoopingBus(2, 1);
-        own(x, 0, 17, -3);
+        Steps.own(x, 0, 17, -3);
         Due.is("13: the copy", x.copy(0, 17), -3);
         Due.is("13: beside it", x.copy(0, 16), 0);
         Due.is("13: another core has none", x.copy(1, 17), 0);
         x.evict(0, 4);
         Due.is("13: none any more", x.copy(0, 17), 0);
-        fetch(x, 1, 16);
+        Steps.fetch(x, 1, 16);
         Due.is("13: memory's words", x.copy(1, 17), -3);
         x.store(1, 17, 12);
         Due.is("13: not the buffer's", x.copy(1, 17), -3);
-        own(x, 0, 16, 1);
+        Steps.own(x, 0, 16, 1);
         Due.is("13: none after another took it", x.copy(1, 17), 0);
         for (int core : NO_CORES_OF_TWO) {
             Due.is("13: no core " + core, x.copy(core, 17), 0);
@@ -709,7 +697,7 @@ public final class PromisesTest {
 
     private static void promise14Memory() {
         SnoopingBus x = new SnoopingBus(2, 1);
-        own(x, 0, 28, 1);
+        Steps.own(x, 0, 28, 1);
         x.swap(0, 29, 2);
         x.swap(0, 30, 3);
         x.swap(0, 31, 4);
@@ -727,13 +715,13 @@ public final class PromisesTest {
     private static void promise15Seen() {
         for (int core = 0; core < 4; core++) {
             SnoopingBus x = new SnoopingBus(4, 1);
-            own(x, core, 10, 5);
+            Steps.own(x, core, 10, 5);
             Due.is("15: the modified copy", x.seen(10), 5);
             Due.is("15: beside it", x.seen(9), 0);
             Due.is("15: memory", x.memory(10), 0);
             x.store(core, 10, 6);
             Due.is("15: a buffered store is not seen", x.seen(10), 5);
-            fetch(x, (core + 1) % 4, 10);
+            Steps.fetch(x, (core + 1) % 4, 10);
             Due.is("15: shared: memory's", x.seen(10), 5);
             x.evict(core, 2);
             x.evict((core + 1) % 4, 2);
@@ -748,12 +736,12 @@ public final class PromisesTest {
     private static void promise16Count() {
         SnoopingBus x = new SnoopingBus(4, 1);
         for (int core = 0; core < 4; core++) {
-            fetch(x, core, 0);
+            Steps.fetch(x, core, 0);
         }
         Due.is("16: served", x.count(0), 4);
         x.bus();
         Due.is("16: nobody served", x.count(0), 4);
-        own(x, 2, 0, 1);
+        Steps.own(x, 2, 0, 1);
         Due.is("16: served", x.count(0), 5);
         Due.is("16: three lines became invalid", x.count(2), 3);
         Due.is("16: an upgrade", x.count(3), 1);
@@ -761,7 +749,7 @@ public final class PromisesTest {
         x.swap(2, 0, 2);
         Due.is("16: done at once is not served", x.count(0), 5);
         Due.is("16: nor an upgrade", x.count(3), 1);
-        own(x, 3, 0, 1);
+        Steps.own(x, 3, 0, 1);
         Due.is("16: written back", x.count(1), 1);
         Due.is("16: invalid", x.count(2), 4);
         Due.is("16: filled in is no upgrade", x.count(3), 1);
@@ -774,20 +762,20 @@ public final class PromisesTest {
     private static void promise17Victim() {
         SnoopingBus x = new SnoopingBus(2, 1);
         Due.is("17: empty", x.victim(0, 0), BAD);
-        fetch(x, 0, 24);
+        Steps.fetch(x, 0, 24);
         Due.is("17: the only one", x.victim(0, 0), 6);
         Due.is("17: the other set", x.victim(0, 1), BAD);
-        fetch(x, 0, 28);
+        Steps.fetch(x, 0, 28);
         Due.is("17: of the other set", x.victim(0, 1), 7);
         Due.is("17: another core", x.victim(1, 0), BAD);
         x.evict(0, 6);
         Due.is("17: a place holds none", x.victim(0, 0), BAD);
-        own(x, 1, 28, 1);
+        Steps.own(x, 1, 28, 1);
         Due.is("17: after another took it", x.victim(0, 1), BAD);
         for (int core : NO_CORES_OF_TWO) {
             Due.is("17: no core " + core, x.victim(core, 1), BAD);
         }
-        fetch(x, 1, 24);
+        Steps.fetch(x, 1, 24);
         for (int set : NO_SETS) {
             Due.is("17: no set " + set, x.victim(1, set), BAD);
         }
@@ -795,10 +783,10 @@ public final class PromisesTest {
 
     private static void promise17VictimAfterUse() {
         SnoopingBus x = new SnoopingBus(2, 3);
-        fetch(x, 1, 4);
-        fetch(x, 1, 28);
+        Steps.fetch(x, 1, 4);
+        Steps.fetch(x, 1, 28);
         Due.is("17: a place holds none", x.victim(1, 1), BAD);
-        fetch(x, 1, 12);
+        Steps.fetch(x, 1, 12);
         Due.is("17: the first that came", x.victim(1, 1), 1);
         x.load(1, 4);
         Due.is("17: the next", x.victim(1, 1), 7);
@@ -815,7 +803,7 @@ public final class PromisesTest {
         Due.is("17: it left", x.state(1, 3), 0);
         Due.is("17: the next", x.victim(1, 1), 1);
         x.evict(1, 7);
-        fetch(x, 1, 12);
+        Steps.fetch(x, 1, 12);
         Due.is("17: a line that comes back is the newest", x.victim(1, 1), 1);
         x.load(1, 4);
         Due.is("17: in the order of use", x.victim(1, 1), 5);
